@@ -74,6 +74,10 @@ public final class PromiseTest {
             if (thrown.getClass() != want) {
                 complain("due is " + want.getSimpleName() + ", thrown was " + thrown);
             }
+            StackTraceElement[] trace = thrown.getStackTrace();
+            if (trace.length == 0 || !trace[0].getClassName().equals("KeyStage")) {
+                complain("the machine or the library has thrown " + thrown);
+            }
         }
         if (stage.digest() != before) {
             complain("a refused call changed something");
@@ -198,6 +202,8 @@ public final class PromiseTest {
         due(3, s.key(0, 2, 100, 7, 3));
         due(4, s.key(0, 2, 49, 8, 2));
         due(1, s.key(0, 3, 49, 8, 2));
+        due(1, s.key(0, 3, 49, 9, 3));
+        dueKey(s, 3, 0, 49, 9, 3);
         dueKey(s, 2, 0, 0, 10000, 0);
         dueKey(s, 2, 1, 49, 8, 2);
         dueKey(s, 2, 2, 50, -10000, 4);
@@ -405,7 +411,11 @@ public final class PromiseTest {
         s.cue(0, 30, 11);
         s.cue(0, 30, 12);
         s.cue(0, 100, 13);
+        s.key(0, 3, 10, 0, 2);
+        s.key(0, 3, 20, 1, 4);
         due(100, s.mirror(0));
+        dueKey(s, 3, 0, 80, 1, 3);
+        dueKey(s, 3, 1, 90, 0, 1);
         due(5, s.keys(0, 0));
         dueKey(s, 0, 0, 10, 5, 4);
         dueKey(s, 0, 1, 40, 4, 2);
@@ -468,6 +478,13 @@ public final class PromiseTest {
         s.addStrip(2, 0, 1, 0);
         due(999, s.retime(2, 1, 2));
         due(999, s.strip(0, 2));
+        s.addClip(9);
+        s.key(3, 3, 2, 0, 1);
+        s.key(3, 3, 4, 0, 1);
+        s.key(3, 3, 5, 0, 1);
+        badState(s, () -> s.retime(3, 3, 4));
+        due(7, s.retime(3, 4, 5));
+        due(4, s.keyOf(3, 3, 2, 0));
     }
 
     private static void promise13() {
@@ -491,6 +508,11 @@ public final class PromiseTest {
         dueKey(s, 0, 1, 20, 6, 1);
         dueKey(s, 0, 2, 30, 12, 1);
         due(2, s.reduce(0, 0, 3));
+        s.key(0, 0, 10, 4, 1);
+        s.key(0, 0, 20, 8, 1);
+        s.key(0, 0, 30, 13, 1);
+        due(3, s.reduce(0, 0, 0));
+        dueKey(s, 0, 1, 20, 8, 1);
         s.key(0, 1, 0, 5, 0);
         s.key(0, 1, 10, 5, 1);
         s.key(0, 1, 20, 9, 4);
@@ -507,6 +529,14 @@ public final class PromiseTest {
         for (int i = 0; i < left.length; i++) {
             due(left[i], s.keyOf(0, 2, i, 0));
         }
+        due(6, s.key(0, 2, 100, 77, 2));
+        due(7, s.key(0, 2, 20, 78, 3));
+        dueKey(s, 2, 4, 20, 78, 3);
+        dueKey(s, 2, 6, 100, 77, 2);
+        s.mirror(0);
+        dueKey(s, 2, 0, 0, 77, 1);
+        dueKey(s, 2, 1, 70, 0, 2);
+        dueKey(s, 2, 2, 80, 78, 1);
     }
 
     private static void promise14() {
@@ -694,10 +724,16 @@ public final class PromiseTest {
         due(0, s.stripAt(0, 107, true));
         due(8, s.stripAt(0, 119, true));
         due(10, s.stripAt(0, 120, true));
+        s.addStrip(0, 100, 9, 2);
+        due(2, s.stripAt(3, 122, true));
+        due(8, s.stripAt(3, 132, true));
+        due(2, s.stripAt(3, 142, true));
+        due(8, s.stripAt(3, 152, true));
+        due(2, s.stripAt(3, 182, true));
         badNumber(s, () -> s.stripAt(0, -1, true));
         badNumber(s, () -> s.stripAt(0, 100001, true));
         badNumber(s, () -> s.stripAt(0, LEAST, false));
-        noPlace(s, () -> s.stripAt(3, -1, false));
+        noPlace(s, () -> s.stripAt(4, -1, false));
         noPlace(s, () -> s.stripAt(-1, 0, true));
     }
 
@@ -928,6 +964,17 @@ public final class PromiseTest {
         dueMet(s, 0, 1, 0, 0, 0);
         due(4, s.play(18, 18));
         dueMet(s, 0, 18, 1, 8, 3);
+        // Those that come later may be met earlier: then the last of the first 100 are not kept.
+        s.addStrip(0, 60, 9, 0);
+        s.addStrip(0, 30, 9, 0);
+        s.removeStrip(0);
+        s.removeStrip(0);
+        due(144, s.play(0, 100));
+        dueMet(s, 0, 30, 1, 0, 0);
+        dueMet(s, 71, 47, 1, 8, 7);
+        dueMet(s, 72, 60, 0, 0, 0);
+        dueMet(s, 99, 66, 0, 3, 3);
+        noPlace(s, () -> s.met(100, 0));
     }
 
     private static void promise27() {
