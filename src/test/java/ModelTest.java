@@ -12,8 +12,9 @@ import java.util.TreeMap;
  * that goes by its words alone; each answer, exception and digest must be the same on both.
  */
 public final class ModelTest {
-    private static final int RUNS = 400;
-    private static final int CALLS = 512;
+    private static final int RUNS = 800;
+    // After each call the digest is asked too, and nothing is promised after an object's 512th call.
+    private static final int CALLS = 256;
     private static final int[] EDGES = {
         Integer.MIN_VALUE, Integer.MIN_VALUE + 1, -100001, -10001, -2, -1, 0, 1, 2, 3, 4, 5, 6, 8, 9, 10, 13, 16,
         20, 21, 99, 100, 101, 300, 301, 1000, 1001, 2000, 2001, 5000, 5001, 10000, 10001, 99999, 100000, 100001,
